@@ -107,7 +107,7 @@ public final class PastHeaps {
         if (now.fault != 0) {
             return NONE;
         }
-        now.acts[row].take(told);
+        now.acts[row].copyActs(told);
         pastFor(row).runAll(told);
         if (row == now.rows) {
             now.rows++;
@@ -173,7 +173,7 @@ public final class PastHeaps {
         if (images[k] == null) {
             images[k] = new Told();
         }
-        images[k].take(now);
+        images[k].copyTold(now);
         return true;
     }
 
@@ -181,7 +181,7 @@ public final class PastHeaps {
         if (k < 0 || k >= IMAGES || images[k] == null) {
             return false;
         }
-        now.take(images[k]);
+        now.copyTold(images[k]);
         for (int i = 0; i < now.rows && i < ROWS; i++) {
             pastFor(i).runAll(now.acts[i]);
         }
@@ -527,7 +527,7 @@ public final class PastHeaps {
             return k >= 0 && k < size && i >= 0 && i < NUMBERS ? numbers[k * NUMBERS + i] : NONE;
         }
 
-        void take(Acts from) {
+        void copyActs(Acts from) {
             size = from.size;
             System.arraycopy(from.kinds, 0, kinds, 0, ACTS);
             System.arraycopy(from.numbers, 0, numbers, 0, ACTS * NUMBERS);
@@ -556,14 +556,14 @@ public final class PastHeaps {
             }
         }
 
-        void take(Told from) {
+        void copyTold(Told from) {
             System.arraycopy(from.tape, 0, tape, 0, TAPE_BYTES);
             used = from.used;
             fault = from.fault;
             place = from.place;
             rows = from.rows;
             for (int i = 0; i < ROWS; i++) {
-                acts[i].take(from.acts[i]);
+                acts[i].copyActs(from.acts[i]);
             }
         }
     }
