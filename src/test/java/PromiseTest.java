@@ -48,6 +48,7 @@ public final class PromiseTest {
         ways();
         twices();
         images();
+        fortyPuts();
         Due.finish("PromiseTest");
     }
 
@@ -160,6 +161,10 @@ public final class PromiseTest {
         fault("put 0 100;", 1, 6);
         fault("put 0 12 ;", 0, NONE);
         fault("news;", 1, 0);
+        fault("newa;", 1, 0);
+        fault("newz;", 1, 0);
+        fault("new`;", 1, 3);
+        fault("new{;", 1, 3);
         fault("ne w;", 1, 0);
         fault("New;", 1, 0);
         fault("newX;", 1, 3);
@@ -841,5 +846,37 @@ public final class PromiseTest {
         Due.is("other row", heaps.order(1, 1, 0, true), 8);
         Due.is("no image", heaps.again(3), false);
         Due.is("no image", heaps.again(-1), false);
+    }
+
+    /** The last of all versions, and the last of all things. */
+    private static void fortyPuts() {
+        StringBuilder puts = new StringBuilder();
+        for (int k = 0; k < 40; k++) {
+            puts.append("put ").append(k).append(" 50;");
+        }
+        PastHeaps heaps = of(puts.toString());
+        Due.is("stop", heaps.stop(0), 40);
+        // each link leaves one tree fewer: 40 put, two trees in the end
+        Due.is("nodes", heaps.all(0, false), 78);
+        Due.is("things", heaps.all(0, true), 40);
+        Due.is("links", heaps.way(0, 0, 40, false), 38);
+        Due.is("ways", heaps.way(0, 0, 40, true), 1);
+        Due.is("away", heaps.meet(0, 0, 40, true), 40);
+        Due.is("meet", heaps.meet(0, 40, 40, false), 40);
+        Due.is("comes", heaps.comes(0, 40, 1), true);
+        Due.is("size", heaps.version(0, 40, 0), 40);
+        Due.is("no version", heaps.version(0, 41, 0), -2);
+        Due.is("last thing", heaps.order(0, 40, 39, false), 39);
+        Due.is("first age", heaps.age(0, 39, false), 40);
+        Due.is("last age", heaps.age(0, 39, true), 40);
+        Due.is("heavy", heaps.heavy(0, 1L << 40), 40);
+        Due.is("kept", heaps.kept(0, (1L << 41) - 1, false) + heaps.kept(0, (1L << 41) - 1, true), 78);
+        Due.is("no version", heaps.kept(0, 1L << 41, false), NONE);
+        Due.is("cover", heaps.cover(0, 1L << 40 | 1L << 39), 1L << 39 | 1L << 40);
+        Due.is("forget", heaps.forget(0, 1L << 40, heaps.kept(0, (1L << 40) - 1, true)), 1L << 40);
+        Due.is("by none", heaps.forget(0, 1L << 40, heaps.kept(0, (1L << 40) - 1, true) + 1), NONE);
+        would(heaps, 40, 1, 0, 0, 1, 0);
+        would(heaps, 40, 2, 40, 0, NONE, NONE);
+        would(heaps, 40, 4, 39, 0, 4, 0);
     }
 }
