@@ -39,6 +39,29 @@ final class Due {
         return heaps.text(at);
     }
 
+    /** A new object whose row 0 is a text. */
+    static PastHeaps of(String text) {
+        PastHeaps heaps = new PastHeaps();
+        is("text " + text, tell(heaps, PastHeaps.NONE, text), 0);
+        return heaps;
+    }
+
+    static String times(int many, String text) {
+        StringBuilder texts = new StringBuilder();
+        for (int i = 0; i < many; i++) {
+            texts.append(text);
+        }
+        return texts.toString();
+    }
+
+    static long bits(int... versions) {
+        long bits = 0;
+        for (int version : versions) {
+            bits |= 1L << version;
+        }
+        return bits;
+    }
+
     static void finish(String name) {
         System.out.println(name + ": " + asked + " answers, " + wrong + " not as due");
         if (wrong != 0) {
