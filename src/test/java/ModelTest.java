@@ -8,6 +8,7 @@ public final class ModelTest {
 
     public static void main(String[] args) {
         int runs = args.length > 0 ? Integer.parseInt(args[0]) : 150;
+        String before = "new;";
         for (int run = 0; run < runs; run++) {
             Random random = new Random(run);
             List<Model.Act> acts = randomActs(random, run % 5);
@@ -23,10 +24,24 @@ public final class ModelTest {
             if (text.length() > 600) {
                 continue;
             }
-            Due.is("run " + run + " text", Due.tell(heaps, -1, text.toString()), 0);
+            tellAfter(heaps, before, text.toString(), run % 3);
+            before = text.toString();
             new ModelTest(heaps, new Model(acts), random, "run " + run + " ").askAll();
         }
         Due.finish("ModelTest");
+    }
+
+    /** How: 0 as the first text, 1 in the place of another one, 2 from an image, behind another one. */
+    private static void tellAfter(PastHeaps heaps, String before, String text, int how) {
+        if (how == 1) {
+            Due.is("text before", Due.tell(heaps, -1, before), 0);
+        }
+        Due.is("text", Due.tell(heaps, how == 1 ? 0 : -1, text), 0);
+        if (how == 2) {
+            Due.is("image", heaps.image(1), true);
+            Due.is("text behind", Due.tell(heaps, 0, before), 0);
+            Due.is("again", heaps.again(1), true);
+        }
     }
 
     /** Kinds: 0 of all, 1 great heaps, 2 small ones, 3 many that can't be, 4 meldings of like things. */

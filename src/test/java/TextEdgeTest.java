@@ -221,6 +221,9 @@ public final class TextEdgeTest {
         fault("put 0 1 2;", 1, 8);
         fault("new;;", 1, 4);
         fault("new; ;", 1, 5);
+        // a word cut off by the end is a token with which no text goes on
+        fault("new;ne", 1, 4);
+        fault("new;les 1", 1, 4);
     }
 
     // Terms 1: a text of acts; promise 5: "the first byte or token with which no text goes on", "the end's" place
