@@ -1131,7 +1131,7 @@ public final class PastHeaps {
         }
 
         boolean isFrom(int version, int from) {
-            return from >= 0 && (fromsOf(version) & bit(from)) != 0;
+            return from >= 0 && from < VERSIONS && (fromsOf(version) & bit(from)) != 0;
         }
 
         int lastCommon(int a, int b) {
